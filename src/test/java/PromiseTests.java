@@ -190,6 +190,8 @@ final class PromiseTests {
             }
             x.row(0, 3, 1);
             c.due("element(0, 1) of the shorter row", x.element(0, 1), 0);
+            x.row(0, 3, 40);
+            c.asked(x, "element(0, 40) of the longest", 0, () -> x.element(0, 40));
         });
         promise(6, "holds", () -> {
             sixKinds();
@@ -370,6 +372,9 @@ final class PromiseTests {
         c.due("VEIL", x.status(2), 3);
         c.due("CELLS", x.status(1), 24);
         c.due("what comes is added", x.status(0), 1);
+        reads("shy 23 7;thing 23 8", 2);
+        c.due("SHYNESS of the last", x.cellOf(23, 0), 7);
+        c.due("THING of the last", x.cellOf(23, 1), 8);
         reads("veil 1;veil 2;veil 0", 3);
         c.due("VEIL", x.status(2), 0);
         reads("visitor0 0 0;visitor 0 0 0;visitor 0 0 0;visitor 0 0 0;visitor 0 0 0;visitor 0 0 0;visitor 5 0 0", 7);
@@ -396,6 +401,12 @@ final class PromiseTests {
         reads(" veils 3", -21);
         reads("vei 3", -20);
         reads("Veil 3", -20);
+        reads("veilz 3", -20);
+        reads("aveil 3", -20);
+        reads("xeil 3", -20);
+        reads("veix 3", -20);
+        reads("veil {", -25);
+        reads("veil`3", -24);
         reads("veil x", -25);
         reads("veil ;", -25);
         reads("veil -1", -25);
@@ -652,6 +663,8 @@ final class PromiseTests {
                 }
             }
             c.asked(x, "each lacks one, any two know all", 2, () -> x.together());
+            reads("saw 1 1;saw 2 2", 2);
+            c.asked(x, "the first cell alone is lacked", 2, () -> x.together());
             x.visitor(0, 0, 0);
             c.asked(x, "one more who knows nothing", 3, () -> x.together());
         });
@@ -661,6 +674,8 @@ final class PromiseTests {
             c.asked(x, "nothing seen", 0, () -> x.needed());
             reads("saw 0 0;saw 1 0;saw 1 1;saw 5 11;saw 4 0", 5);
             c.asked(x, "needed", 34, () -> x.needed());
+            reads("saw 0 5", 1);
+            c.asked(x, "needed", 35, () -> x.needed());
         });
         promise(33, "picture", this::pictures);
         promise(34, "lift", this::lifts);
@@ -711,6 +726,9 @@ final class PromiseTests {
         c.asked(x, "the first by rows", 0, () -> x.order(7, 2));
         reads("visitor 0 0 20;visitor 0 0 20;visitor 0 0 20;visitor 0 0 20", 4);
         c.asked(x, "six of seven", 10, () -> x.order(123, NONE));
+        c.asked(x, "the fifth is the last but one by rows", 5, () -> x.order(123, 4));
+        c.asked(x, "the asker behind the visitor", 0, () -> x.order(123, 1));
+        c.asked(x, "the sixth is the last by rows", 6, () -> x.order(123, 5));
         c.refused(x, "seven", BAD, () -> x.order(127, NONE));
     }
 
@@ -841,6 +859,17 @@ final class PromiseTests {
         c.asked(x, "0 at least: all alike but the asker", 1, () -> x.lift(2, 0));
         c.asked(x, "four from 0", 0, () -> x.lift(4, 0));
         c.asked(x, "four from 0: whom", 0, () -> x.lift(4, 1));
+        lifts("visitor 1 0 0;visitor 3 0 0", 4, 5, 6, 6, 6);
+        lifts("visitor 1 0 0;visitor 0 0 0", 4, 4, 5, 5, 5);
+        lifts("visitor 5 0 0;visitor 1 0 0;visitor 5 0 0;visitor 3 0 0", 4, 3, 4, 3, 4);
+        lifts("visitor 0 0 0;visitor 0 0 0;visitor 0 0 0", 4, 4, 4, 4, 4);
+        lifts("visitor 5 0 0;visitor 5 0 0;visitor 5 0 0;visitor 0 0 0", 4, 3, 3, 2, 1);
+        x = new VeilsOfTheView();
+        feedText("visitor 1 0 0;visitor 3 0 0");
+        x.view();
+        x.tell(0, 19);
+        c.asked(x, "20 at most", 20, () -> x.lift(2, 0));
+        c.asked(x, "the first of two", 0, () -> x.lift(2, 1));
         x = new VeilsOfTheView();
         x.visitor(1, 0, 0);
         c.asked(x, "none is left", 5, () -> x.lift(4, 0));
@@ -851,11 +880,24 @@ final class PromiseTests {
         c.refused(x, "what -1", BAD, () -> x.lift(1, -1));
     }
 
+    /** VEIL that is due by no turn, one, two .. */
+    private void lifts(String told, int... due) {
+        x = new VeilsOfTheView();
+        feedText(told);
+        x.view();
+        for (int n = 0; n < due.length; n++) {
+            int turns = n;
+            c.asked(x, told + ": lift(" + n + ", 0)", due[n], () -> x.lift(turns, 0));
+        }
+    }
+
     private void manyMore() {
         promise(37, "hidden", () -> {
             c.asked(x, "nobody", 4095, () -> x.hidden());
             x.visitor(0, 0, 6);
             c.asked(x, "hidden()", 2048, () -> x.hidden());
+            x.visitor(0, 0, 8);
+            c.asked(x, "who sees less hides nothing", 2048, () -> x.hidden());
             x.visitor(5, 0, 0);
             c.asked(x, "nothing", 0, () -> x.hidden());
             x.tell(0, 11);
@@ -988,8 +1030,9 @@ final class PromiseTests {
         });
         promise(48, "secret", () -> {
             sixKinds();
-            reads("saw 5 0;saw 1 1;saw 2 1", 3);
+            reads("saw 5 0;saw 1 1;saw 2 1;saw 0 3", 4);
             c.asked(x, "one", 5, () -> x.secret(0));
+            c.asked(x, "the first", 0, () -> x.secret(3));
             c.asked(x, "several", NONE, () -> x.secret(1));
             c.asked(x, "none", NONE, () -> x.secret(2));
             c.refused(x, "secret(12)", BAD, () -> x.secret(12));
@@ -1220,6 +1263,22 @@ final class PromiseTests {
             c.due("KNOWN", x.known(3), known);
         }
         c.due("SEED", x.status(6), seed);
+        // two of three come: the draws of the first day say who
+        for (int from = 1; from < 9; from++) {
+            x = new VeilsOfTheView();
+            reads("visitor 0 0 20;visitor 1 0 20;visitor 2 0 20", 3);
+            x.seed(from);
+            int drawn = from * 1103515245 + 12345;
+            int veil = (drawn >>> 16) % 21;
+            int group = 0;
+            for (int visitor = 0; visitor < 3; visitor++) {
+                drawn = drawn * 1103515245 + 12345;
+                group += (drawn >>> 16) % 2 << visitor;
+            }
+            c.granted(x, "a day from seed " + from, group == 0 ? 0 : 1, () -> x.days(1));
+            c.due("who came, from seed " + from, x.cellOf(0, 2), group);
+            c.due("VEIL, from seed " + from, x.status(2), Math.min(20, veil + group / 2 % 2));
+        }
         x = new VeilsOfTheView();
         x.visitor(0, 0, 0);
         x.visitor(5, 0, 0);
@@ -1262,6 +1321,7 @@ final class PromiseTests {
         c.due("is no child", x.veilThen(2), 5);
         x.show(0, 0);
         x.show(1, 1);
+        x.show(7, 1);
         fill(2, 2, 11);
         feedText("veil");
         int bad = x.status(12);
@@ -1269,6 +1329,7 @@ final class PromiseTests {
         c.granted(x, "back() again", 1, () -> x.back());
         c.due("a shelf with one who is there", x.holds(0), 10);
         c.due("a shelf with one who is gone", x.holds(1), NONE);
+        c.due("the last shelf", x.holds(7), NONE);
         c.due("a shelf with a row", x.element(2, 0), 11);
         c.due("THE TAPE is as it is", x.status(5), 4);
         c.due("REFUSALS are as they are", x.status(12), bad + 1);
