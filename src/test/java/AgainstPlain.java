@@ -16,8 +16,8 @@ final class AgainstPlain {
      * C cells, k kind, w 0 to 20, d day, a 0 to 9, 2 3 4 5 below that, t twos, e elements, n others, L any long.
      */
     private static final String[] CALLS_TOLD = {
-        "row s5e", "row s5e", "set seL", "set seL", "copy sseee", "copy sseee", "element se", "holds s", "show sV", "show sV", "says sk", "says sk", "paves p",
-        "visitor kaw", "visitor kaw", "wants vw", "mark c2w", "mark c2a", "tell 2w", "tell 2d", "feed b", "wipe", "view",
+        "row s5e", "row s5e", "set seL", "set seL", "copy sseee", "copy sseee", "element se", "holds s",
+        "show sV", "show sV", "says sk", "says sk", "paves p", "visitor kaw", "visitor kaw", "wants vw", "mark c2w", "mark c2a", "tell 2w", "tell 2d", "feed b", "wipe", "view",
         "visitorOf v5", "cellOf c3", "open vg", "shown vg", "known g", "fresh g", "veilThen g", "send 8",
         "fewest C", "order gi", "how vc", "lifted vc2", "register stc3", "fits stv2", "together", "needed",
         "picture sev", "lift 52", "chance vc", "mean v", "hidden", "best 2", "mate v", "rarest 2", "both vv",
@@ -224,7 +224,7 @@ final class AgainstPlain {
 
     private int tape(Check check, int run) {
         String[] words = {"cells", "visitor", "shy", "thing", "saw", "veil", "day"};
-        String sorts[] = {"p", "kaw", "cw", "ca", "vc", "w", "d"};
+        String[] sorts = {"p", "kaw", "cw", "ca", "vc", "w", "d"};
         List<String> parts = new ArrayList<>();
         int statements = 1 + random.nextInt(4);
         for (int i = 0; i < statements; i++) {
@@ -244,7 +244,8 @@ final class AgainstPlain {
         StringBuilder text = new StringBuilder(random.nextInt(6) == 0 ? " " : "");
         for (int i = 0; i < parts.size(); i++) {
             String blank = random.nextInt(5) == 0 ? "   " : " ";
-            boolean close = random.nextInt(3) == 0 && (parts.get(i).equals(";") || i + 1 < parts.size() && parts.get(i + 1).equals(";"));
+            boolean bySign = parts.get(i).equals(";") || i + 1 < parts.size() && parts.get(i + 1).equals(";");
+            boolean close = bySign && random.nextInt(3) == 0;
             text.append(parts.get(i)).append(close ? "" : blank);
         }
         for (int i = 0; i < text.length(); i++) {
