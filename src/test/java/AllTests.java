@@ -8,6 +8,7 @@ public final class AllTests {
         FaceTests.run(check);
         LanguageTests.run(check);
         PromiseTests.run(check);
+        Edges.run(check);
         AgainstPlain.run(check);
         System.out.println(check.passed + " passed, " + check.failed + " failed");
         if (check.failed != 0) {
