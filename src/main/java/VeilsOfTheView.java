@@ -24,7 +24,6 @@ public final class VeilsOfTheView {
     private static final int THINGS = 10;
     private static final int A_MOST = 9;
     private static final int DAY_MOST = 999;
-    private static final int CELLS_LEAST = 4;
     private static final int CELLS_FIRST = 12;
     private static final int CELLS_MOST = 24;
     private static final int VISITORS_MOST = 8;

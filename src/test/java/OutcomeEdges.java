@@ -248,6 +248,9 @@ final class OutcomeEdges {
                 register(0, 2, 3, 0) = 6
                 register(0, 2, 3, 1) = 10
                 register(0, 2, 3, 2) = 5
+                set(0, 1, 9) = 1
+                register(0, 2, 0, 0) = 6
+                register(0, 2, 0, 1) = 10
                 # one alone fits
                 wants(1, 0) = 5
                 wants(0, 7) = 6
@@ -377,7 +380,17 @@ final class OutcomeEdges {
                 together() = NONE
                 """);
         e.at(31, """
-                # all but one CELL, and that one
+                # all but the first and the last CELL, then those
+                visitor(5, 0, 0) = 0
+                mark(0, 0, 20) = 0
+                mark(11, 0, 20) = 11
+                visit(1) = 2046
+                together() = NONE
+                reads "saw 0 11" = 1
+                together() = NONE
+                reads "saw 0 0" = 1
+                together() = 1
+                new
                 visitor(5, 0, 0) = 0
                 mark(11, 0, 20) = 11
                 visit(1) = 2047
