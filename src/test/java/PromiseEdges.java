@@ -420,7 +420,7 @@ final class PromiseEdges {
                 "cellOf(0, HIGH) = BAD");
     }
 
-    /** What is not a GROUP of six, with one who is in each that is; LIKEWISE is the call, % the GROUP. */
+    /** What is no GROUP of six VISITORS, told for % in the call. */
     private static String badGroups(String call) {
         StringBuilder script = new StringBuilder(SIX);
         for (String group : new String[] {"64", "65", "127", "-1", "LOW", "HIGH", "-2147483647"}) {
@@ -429,33 +429,28 @@ final class PromiseEdges {
         return script.toString();
     }
 
+    /** Among six: nobody, others than he, one who isn't there, and numbers by which a shift would wrap around. */
+    private static String badInGroups(String call) {
+        return """
+                CALL(0, 0) = BAD
+                CALL(0, 2) = BAD
+                CALL(0, 62) = BAD
+                CALL(5, 31) = BAD
+                CALL(6, 64) = BAD
+                CALL(6, 1) = BAD
+                CALL(-1, 1) = BAD
+                CALL(31, LOW) = BAD
+                CALL(32, 1) = BAD
+                """.replace("CALL", call);
+    }
+
     private void groups() {
         e.promise(19);
         e.edge("OPEN to one in a GROUP (he is in it).", SIX, "open(0, 1) = 10", "open(5, 32) = 16", "open(0, 63) = 7", "open(5, 63) = 12");
-        e.edge("BAD: also a GROUP he isn't in, or with one who isn't there.", badGroups("open(0, %)"), """
-                open(0, 0) = BAD
-                open(0, 2) = BAD
-                open(0, 62) = BAD
-                open(5, 31) = BAD
-                open(6, 64) = BAD
-                open(6, 1) = BAD
-                open(-1, 1) = BAD
-                open(31, LOW) = BAD
-                open(32, 1) = BAD
-                """);
+        e.edge("BAD: also a GROUP he isn't in, or with one who isn't there.", badGroups("open(0, %)"), badInGroups("open"));
         e.promise(20);
         e.edge("SHOWN to one in a GROUP likewise.", SIX, "shown(0, 1) = 2047", "shown(5, 32) = 4095", "shown(0, 63) = 255");
-        e.edge("BAD likewise.", badGroups("shown(0, %)"), """
-                shown(0, 0) = BAD
-                shown(0, 2) = BAD
-                shown(0, 62) = BAD
-                shown(5, 31) = BAD
-                shown(6, 64) = BAD
-                shown(6, 1) = BAD
-                shown(-1, 1) = BAD
-                shown(31, LOW) = BAD
-                shown(32, 1) = BAD
-                """);
+        e.edge("BAD likewise.", badGroups("shown(0, %)"), badInGroups("shown"));
         e.promise(21);
         e.edge("KNOWN of told VISITORS.", "known(0) = 0", SIX, "known(0) = 0", "known(63) = 0", "visit(32) = 4095", "known(32) = 4095",
                 "known(31) = 0", "known(63) = 4095");
