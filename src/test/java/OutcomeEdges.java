@@ -512,6 +512,36 @@ final class OutcomeEdges {
                 lift(3, 0) = 4
                 lift(3, 1) = 0
                 lift(4, 0) = 4
+                # three who let it down, whoever is on; then none is left
+                new
+                visitor(1, 0, 0) = 0
+                visitor(3, 0, 0) = 1
+                visitor(1, 0, 0) = 2
+                lift(1, 0) = 5
+                lift(2, 0) = 6
+                lift(3, 0) = 7
+                lift(4, 0) = 7
+                tell(0, 19) = 4
+                lift(1, 0) = 20
+                lift(3, 0) = 20
+                lift(4, 0) = 20
+                # one ASKER can't be sent twice
+                new
+                visitor(1, 0, 0) = 0
+                visitor(5, 0, 0) = 1
+                visitor(5, 0, 0) = 2
+                lift(2, 0) = 4
+                lift(3, 0) = 3
+                lift(4, 0) = 3
+                lift(4, 1) = 0
+                # nor one by whom VEIL stays
+                new
+                3 x visitor(5, 0, 0)
+                visitor(0, 0, 0) = 3
+                lift(2, 0) = 3
+                lift(3, 0) = 2
+                lift(4, 0) = 1
+                lift(4, 1) = 0
                 # of several the first
                 new
                 visitor(0, 0, 0) = 0

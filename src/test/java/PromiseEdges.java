@@ -756,6 +756,15 @@ final class PromiseEdges {
                 rarest(0) = 11
                 paves(24) = 12
                 rarest(0) = 11
+                new
+                # each CELL that is there is SEEN by somebody, and by all
+                visitor(5, 0, 0) = 0
+                visit(1) = 4095
+                rarest(0) = 0
+                rarest(1) = 0
+                paves(13) = 12
+                rarest(0) = 12
+                rarest(1) = 0
                 """);
         e.edge("BAD.", "rarest(-1) = BAD", "rarest(2) = BAD", "rarest(LOW) = BAD", "rarest(HIGH) = BAD");
     }
@@ -1117,6 +1126,20 @@ final class PromiseEdges {
                 show(7, 1) = 1
                 back() = 1
                 holds(7) = NONE
+                # in the first SHELF and in all
+                visitor(2, 0, 0) = 1
+                show(0, 1) = 1
+                show(1, 1) = 1
+                show(3, 1) = 1
+                show(4, 1) = 1
+                show(5, 1) = 1
+                show(6, 1) = 1
+                show(7, 1) = 1
+                status(7) = 8
+                back() = 1
+                status(7) = 1
+                holds(0) = NONE
+                holds(2) = 3
                 # who got that number before is
                 image() = 1
                 visitor(2, 0, 0) = 1

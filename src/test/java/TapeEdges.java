@@ -91,6 +91,14 @@ final class TapeEdges {
                 reads "veils 3" = -20
                 status(2) = 4
                 """);
+        // a WORD that is another by one letter, the first, one between or the last
+        for (String word : new String[] {"cells", "visitor", "shy", "thing", "saw", "veil", "day"}) {
+            StringBuilder script = new StringBuilder("visitor(0, 0, 0) = 0\n");
+            for (int i = 0; i < word.length(); i++) {
+                script.append(reads(word.substring(0, i) + "q" + word.substring(i + 1) + " 0 0 0", -20));
+            }
+            e.at(VIEW, script.toString());
+        }
         e.sentence("NUMBERS (digits),");
         e.at(VIEW, """
                 reads "veil 0" = 1
