@@ -1,6 +1,8 @@
 import java.lang.reflect.InvocationTargetException;
 import java.lang.reflect.Method;
 import java.util.ArrayList;
+import java.util.Arrays;
+import java.util.HashMap;
 import java.util.List;
 import java.util.Map;
 import java.util.Random;
@@ -8,8 +10,12 @@ import java.util.TreeMap;
 
 /** Long runs of drawn calls, each answer held against the one of the plain copy of the document. */
 final class AgainstPlain {
-    private static final int RUNS = 260;
-    private static final int CALLS = 512;
+    private static final int RUNS = 1200;
+    /** A TAPE or a ROW is told as a whole, or not at all. */
+    private static final int AT_ONCE_MOST = 120;
+    /** One call of so many is followed by a look at all there is. */
+    private static final int LOOKS = 60;
+    private static final Map<String, Method> PLAIN = plainCalls();
 
     /**
      * The sorts of numbers that each call takes: s shelf, v visitor, V visitor or NONE, c cell, g group,
@@ -27,7 +33,7 @@ final class AgainstPlain {
     };
 
     private final Random random;
-    private final VeilsOfTheView x = new VeilsOfTheView();
+    private final Used x = new Used();
     private final Plain y = new Plain();
     private final Map<String, Integer> granted;
 
@@ -56,44 +62,30 @@ final class AgainstPlain {
     }
 
     private void play(Check check, int run) {
-        for (int i = 0; i < CALLS;) {
-            if (i % 64 == 0) {
-                compareAll(check, run);
-            }
+        while (x.hasRoomFor(1)) {
             int sort = random.nextInt(20);
-            if (sort == 0) {
-                i += tape(check, run);
-            } else if (sort == 1) {
-                i += told(check, run);
+            if (sort == 0 && x.hasRoomFor(AT_ONCE_MOST)) {
+                tape(check, run);
+            } else if (sort == 1 && x.hasRoomFor(AT_ONCE_MOST)) {
+                told(check, run);
             } else {
                 String[] told = CALLS_TOLD[random.nextInt(CALLS_TOLD.length)].split(" ");
                 boolean rare = told[0].equals("days") || told[0].equals("visit") || told[0].equals("back");
                 if (!rare || random.nextInt(4) == 0) {
                     draw(check, run, told);
-                    i++;
                 }
+            }
+            if (random.nextInt(LOOKS) == 0 && x.hasRoomFor(1)) {
+                compareAll(check, run);
             }
         }
     }
 
-    /** What the statuses do not tell. */
     private void compareAll(Check check, int run) {
-        for (int cell = 0; cell < y.status(1); cell++) {
-            for (int what = 0; what < 3; what++) {
-                check.due("run " + run + ": cellOf " + cell + " " + what, x.cellOf(cell, what), y.cellOf(cell, what));
-            }
-        }
-        for (int visitor = 0; visitor < y.status(0); visitor++) {
-            for (int what = 0; what < 5; what++) {
-                check.due("run " + run + ": visitorOf " + visitor + " " + what,
-                        x.visitorOf(visitor, what), y.visitorOf(visitor, what));
-            }
-        }
-        for (int s = 0; s < 8; s++) {
-            check.due("run " + run + ": holds " + s, x.holds(s), y.holds(s));
-            for (int i = 0; i < 40; i++) {
-                check.due("run " + run + ": element " + s + " " + i, x.element(s, i), y.element(s, i));
-            }
+        check.holds("run " + run + ": both look the same", x.look().equals(Asked.look(this::plain)));
+        long[] refusals = x.refusals();
+        for (int i = 0; i < refusals.length; i++) {
+            check.due("run " + run + ": refusals " + (-2 - i), refusals[i], y.status(12 + i));
         }
     }
 
@@ -107,15 +99,10 @@ final class AgainstPlain {
     }
 
     private long call(Check check, int run, String name, long... numbers) {
-        long got = answer(x, name, numbers);
-        long want = answer(y, name, numbers);
-        StringBuilder text = new StringBuilder("run " + run + ": " + name + "(");
-        for (int i = 0; i < numbers.length; i++) {
-            text.append(i == 0 ? "" : ", ").append(numbers[i]);
-        }
-        check.due(text.append(")").toString(), got, want);
-        for (int what = 0; what <= 16; what++) {
-            check.due(text + " then status(" + what + ")", x.status(what), y.status(what));
+        long got = x.ask(name, numbers);
+        long want = plain(name, numbers);
+        if (got != want) {
+            check.due("run " + run + ": " + name + Arrays.toString(numbers), got, want);
         }
         if (got >= -1 || name.equals("element") || name.equals("seed")) {
             granted.merge(name, 1, Integer::sum);
@@ -123,23 +110,26 @@ final class AgainstPlain {
         return got;
     }
 
-    private static long answer(Object object, String name, long[] numbers) {
-        for (Method m : object.getClass().getMethods()) {
-            if (m.getName().equals(name) && m.getParameterCount() == numbers.length
-                    && m.getDeclaringClass() == object.getClass()) {
-                Object[] given = new Object[numbers.length];
-                for (int i = 0; i < given.length; i++) {
-                    boolean isLong = m.getParameterTypes()[i] == long.class;
-                    given[i] = isLong ? (Object) numbers[i] : (Object) (int) numbers[i];
-                }
-                try {
-                    return ((Number) m.invoke(object, given)).longValue();
-                } catch (IllegalAccessException | InvocationTargetException thrown) {
-                    throw new IllegalStateException(name, thrown);
-                }
-            }
+    private long plain(String name, long... numbers) {
+        Method method = PLAIN.get(name);
+        Object[] given = new Object[numbers.length];
+        for (int i = 0; i < given.length; i++) {
+            boolean isLong = method.getParameterTypes()[i] == long.class;
+            given[i] = isLong ? (Object) numbers[i] : (Object) (int) numbers[i];
         }
-        throw new IllegalStateException("no call " + name);
+        try {
+            return ((Number) method.invoke(y, given)).longValue();
+        } catch (IllegalAccessException | InvocationTargetException thrown) {
+            throw new IllegalStateException(name, thrown);
+        }
+    }
+
+    private static Map<String, Method> plainCalls() {
+        Map<String, Method> found = new HashMap<>();
+        for (Method method : Plain.class.getMethods()) {
+            found.put(method.getName(), method);
+        }
+        return found;
     }
 
     private long number(char sort) {
@@ -174,7 +164,7 @@ final class AgainstPlain {
     }
 
     /** A ROW that tells something near what is so, then what is asked of it. */
-    private int told(Check check, int run) {
+    private void told(Check check, int run) {
         int s = random.nextInt(8);
         int visitors = Math.max(1, y.status(0));
         int sort = random.nextInt(8) == 0 ? random.nextInt(5) : 2 + random.nextInt(2);
@@ -207,7 +197,6 @@ final class AgainstPlain {
                     call(check, run, "behind", s, n, what);
             }
         }
-        return n + 4;
     }
 
     private long shownFor(int kind, int visitor, int told) {
@@ -222,7 +211,7 @@ final class AgainstPlain {
         return Plain.bits(then.alone(then.visitors.get(Math.min(who, then.visitors.size() - 1))));
     }
 
-    private int tape(Check check, int run) {
+    private void tape(Check check, int run) {
         String[] words = {"cells", "visitor", "shy", "thing", "saw", "veil", "day"};
         String[] sorts = {"p", "kaw", "cw", "ca", "vc", "w", "d"};
         List<String> parts = new ArrayList<>();
@@ -252,6 +241,5 @@ final class AgainstPlain {
             call(check, run, "feed", text.charAt(i));
         }
         call(check, run, "view");
-        return text.length();
     }
 }

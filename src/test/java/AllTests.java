@@ -10,6 +10,8 @@ public final class AllTests {
         PromiseTests.run(check);
         Edges.run(check);
         AgainstPlain.run(check);
+        WildTests.run(check);
+        ReadmeTests.run(check);
         System.out.println(check.passed + " passed, " + check.failed + " failed");
         if (check.failed != 0) {
             System.exit(1);

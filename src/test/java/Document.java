@@ -89,6 +89,18 @@ final class Document {
         return new ArrayList<>(texts.keySet());
     }
 
+    /** What the code under "The public face" tells of members and of the class, a line each. */
+    static List<String> face() {
+        List<String> lines = new ArrayList<>();
+        String code = read().replaceFirst("(?s).*## The public face\\s+```java\n(.*?)```.*", "$1");
+        for (String line : code.split("\n")) {
+            if (line.trim().startsWith("public ")) {
+                lines.add(line.trim());
+            }
+        }
+        return lines;
+    }
+
     private static String read() {
         try {
             return Files.readString(FILE, StandardCharsets.UTF_8);

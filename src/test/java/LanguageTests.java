@@ -19,7 +19,7 @@ final class LanguageTests {
     static void run(Check c) {
         c.test("the source keeps to the language", () -> {
             String source = read();
-            String code = source.replaceAll("(?s)/\\*.*?\\*/", "").replaceAll("//[^\n]*", "");
+            String code = withoutRemarks(source);
             String bare = code.replaceAll("\"[^\"\n]*\"", "\"\"").replaceAll("'[^'\n]'", "' '");
             String[] words = {"throw", "throws", "try", "catch", "finally", "synchronized", "assert", "package",
                 "float", "double", "volatile", "transient", "native", "Object", "Thread", "Random", "Character",
@@ -42,6 +42,17 @@ final class LanguageTests {
                 c.holds("library: " + calls.group(), LIBRARY.contains(calls.group()));
             }
         });
+        c.test("objects are made in constructors alone, so that no call takes room", () -> {
+            String member = "";
+            for (String line : withoutRemarks(read()).split("\n")) {
+                if (line.matches("( {4}| {8})(?! |for|if|while|switch|\\}).*\\) \\{")) {
+                    member = line.trim();
+                }
+                if (line.matches(".*\\bnew \\w.*")) {
+                    c.holds(line.trim() + " in " + member, member.matches("(public )?[A-Z]\\w*\\(\\) \\{"));
+                }
+            }
+        });
         c.test("methods stay short", () -> {
             String[] lines = read().split("\n");
             int start = -1;
@@ -56,6 +67,10 @@ final class LanguageTests {
                 }
             }
         });
+    }
+
+    private static String withoutRemarks(String source) {
+        return source.replaceAll("(?s)/\\*.*?\\*/", "").replaceAll("//[^\n]*", "");
     }
 
     private static String read() {

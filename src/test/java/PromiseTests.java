@@ -10,7 +10,7 @@ final class PromiseTests {
     private static final int HIGH = Integer.MAX_VALUE;
 
     private final Check c;
-    private VeilsOfTheView x;
+    private Face x;
 
     private PromiseTests(Check check) {
         c = check;
@@ -28,7 +28,7 @@ final class PromiseTests {
 
     private void promise(int number, String name, Runnable body) {
         c.test("promise " + number + ": " + name, () -> {
-            x = new VeilsOfTheView();
+            x = Used.face();
             body.run();
         });
     }
@@ -49,18 +49,16 @@ final class PromiseTests {
 
     /** Tells a view, the answer that is due, and that a fault changes nothing. */
     private void reads(String text, int want) {
+        String ahead = Used.behind(x).look();
         feedText(text);
         c.due("size of \"" + text + "\"", x.status(5), text.length());
-        int bad = x.status(12);
-        x.show(7, NONE);
-        String ahead = Check.stateOf(x);
+        long bad = Used.behind(x).refusals()[0];
         c.due("view() of \"" + text + "\"", x.view(), want);
-        c.due("size behind it", x.status(5), 0);
-        c.due("BAD behind it", x.status(12), want < 0 ? bad + 1 : bad);
+        c.due("BAD behind it", Used.behind(x).refusals()[0], want < 0 ? bad + 1 : bad);
         if (want < 0) {
-            feedText(text);
-            c.holds("\"" + text + "\" changes nothing", ahead.equals(Check.stateOf(x)));
-            x.wipe();
+            c.holds("\"" + text + "\" changes nothing", ahead.equals(Used.behind(x).look()));
+        } else {
+            c.due("size behind it", x.status(5), 0);
         }
     }
 
@@ -352,7 +350,8 @@ final class PromiseTests {
             c.due("DAY", x.status(3), 5);
         });
         promise(16, "view", this::views);
-        promise(16, "view: faults", this::faults);
+        promise(16, "view: what can't stand there", this::strays);
+        promise(16, "view: what may not be", this::faults);
     }
 
     private void views() {
@@ -388,7 +387,7 @@ final class PromiseTests {
         reads("visitor 6 0 0", -20);
     }
 
-    private void faults() {
+    private void strays() {
         reads("", -20);
         reads("   ", -23);
         reads("veil", -24);
@@ -418,6 +417,9 @@ final class PromiseTests {
         reads("veil 3\n", -26);
         reads("veil 3" + (char) 160, -26);
         reads("veil" + (char) 0 + "3", -24);
+    }
+
+    private void faults() {
         reads("day 999; day 1000", -33);
         reads("cells 11", -26);
         reads("cells 25", -26);
@@ -653,7 +655,7 @@ final class PromiseTests {
             c.asked(x, "each knows all", 1, () -> x.together());
             x.paves(13);
             c.asked(x, "a new cell", NONE, () -> x.together());
-            x = new VeilsOfTheView();
+            x = Used.face();
             for (int visitor = 0; visitor < 3; visitor++) {
                 x.visitor(0, 0, 0);
                 for (int cell = 0; cell < 12; cell++) {
@@ -864,13 +866,13 @@ final class PromiseTests {
         lifts("visitor 5 0 0;visitor 1 0 0;visitor 5 0 0;visitor 3 0 0", 4, 3, 4, 3, 4);
         lifts("visitor 0 0 0;visitor 0 0 0;visitor 0 0 0", 4, 4, 4, 4, 4);
         lifts("visitor 5 0 0;visitor 5 0 0;visitor 5 0 0;visitor 0 0 0", 4, 3, 3, 2, 1);
-        x = new VeilsOfTheView();
+        x = Used.face();
         feedText("visitor 1 0 0;visitor 3 0 0");
         x.view();
         x.tell(0, 19);
         c.asked(x, "20 at most", 20, () -> x.lift(2, 0));
         c.asked(x, "the first of two", 0, () -> x.lift(2, 1));
-        x = new VeilsOfTheView();
+        x = Used.face();
         x.visitor(1, 0, 0);
         c.asked(x, "none is left", 5, () -> x.lift(4, 0));
         c.asked(x, "he must go", 0, () -> x.lift(1, 1));
@@ -882,7 +884,7 @@ final class PromiseTests {
 
     /** VEIL that is due by no turn, one, two .. */
     private void lifts(String told, int... due) {
-        x = new VeilsOfTheView();
+        x = Used.face();
         feedText(told);
         x.view();
         for (int n = 0; n < due.length; n++) {
@@ -1265,7 +1267,7 @@ final class PromiseTests {
         c.due("SEED", x.status(6), seed);
         // two of three come: the draws of the first day say who
         for (int from = 1; from < 9; from++) {
-            x = new VeilsOfTheView();
+            x = Used.face();
             reads("visitor 0 0 20;visitor 1 0 20;visitor 2 0 20", 3);
             x.seed(from);
             int drawn = from * 1103515245 + 12345;
@@ -1279,7 +1281,7 @@ final class PromiseTests {
             c.due("who came, from seed " + from, x.cellOf(0, 2), group);
             c.due("VEIL, from seed " + from, x.status(2), Math.min(20, veil + group / 2 % 2));
         }
-        x = new VeilsOfTheView();
+        x = Used.face();
         x.visitor(0, 0, 0);
         x.visitor(5, 0, 0);
         int sum = all;
@@ -1300,7 +1302,7 @@ final class PromiseTests {
         x.mark(0, 1, 9);
         x.seed(77);
         x.image();
-        String ahead = Check.stateOf(x);
+        String ahead = Used.behind(x).look();
         x.visitor(5, 0, 0);
         x.wants(0, 9);
         x.paves(20);
@@ -1312,7 +1314,7 @@ final class PromiseTests {
         x.tell(1, 99);
         x.days(9);
         c.granted(x, "back()", 1, () -> x.back());
-        c.holds("all is as it was", ahead.equals(Check.stateOf(x)));
+        c.holds("all is as it was", ahead.equals(Used.behind(x).look()));
         x.paves(20);
         c.due("SHYNESS of the 19th is as at first", x.cellOf(19, 0), 19);
         c.due("THING of the 19th is as at first", x.cellOf(19, 1), 9);
