@@ -872,6 +872,17 @@ final class PromiseEdges {
                 reads "saw 2 11" = 1
                 split(1, 1) = 8
                 split(0, 1) = 1
+                new
+                # the ASKER first would let down VEIL for the other
+                visitor(1, 0, 20) = 0
+                visitor(0, 0, 8) = 1
+                split(3, 0) = 2
+                split(3, 1) = 9
+                visitor(5, 0, 0) = 2
+                visit(4) = 4095
+                tell(0, 4) = 3
+                split(3, 0) = 0
+                split(3, 1) = 12
                 """);
         e.edge("BAD: also one who isn't there.", "split(1, 0) = BAD", badGroups("split(%, 0)"), "split(0, -1) = BAD", "split(0, 2) = BAD",
                 "split(63, LOW) = BAD", "split(64, 2) = BAD", "split(63, 1) = 12");

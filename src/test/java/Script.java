@@ -18,7 +18,8 @@ import java.util.regex.Pattern;
  * # a remark
  * </pre>
  * Every refused call and every question (a call by which nothing changes) is looked at twice more: a new object
- * that went the same way up to it must look like one that went that way without any of them.
+ * that went the same way up to it must look like one that went that way without any of them. Of several alike in a
+ * row it is the last that is looked at.
  */
 final class Script {
     private static final Pattern LINE = Pattern.compile("(?:(\\d+) x )?(\\w+)\\(([^)]*)\\)(?: = (\\S+))?");
@@ -44,6 +45,10 @@ final class Script {
 
         boolean isQuestion() {
             return !CHANGERS.contains(name);
+        }
+
+        boolean isAs(Line other) {
+            return name.equals(other.name) && Arrays.equals(numbers, other.numbers);
         }
 
         int refusal() {
@@ -80,7 +85,9 @@ final class Script {
                 }
             }
             for (int i = 0; i < run.size(); i++) {
-                if (run.get(i).isRefused() || run.get(i).isQuestion()) {
+                boolean leavesAll = run.get(i).isRefused() || run.get(i).isQuestion();
+                boolean isLastAlike = i + 1 == run.size() || !run.get(i + 1).isAs(run.get(i));
+                if (leavesAll && isLastAlike) {
                     compare(run, i);
                 }
             }
