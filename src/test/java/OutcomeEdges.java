@@ -156,6 +156,15 @@ final class OutcomeEdges {
                 order(128, NONE) = 2
                 """);
         e.at(26, """
+                # no CELL at all by any order: still the first by rows
+                3 x visitor(0, 0, 20)
+                mark(0, 0, 1) = 0
+                order(6, NONE) = 0
+                order(6, 0) = 1
+                order(6, 1) = 2
+                order(7, 0) = 0
+                """);
+        e.at(26, """
                 # six of whom the last must go first: the CHILD
                 5 x visitor(0, 0, 0)
                 visitor(5, 0, 0) = 5
